@@ -25,6 +25,7 @@ public final class FordLine {
     private static final int MOST_PLACES = 8;
     private static final int MOST_REACH = 4;
     private static final int MOST_STRIDE = 9;
+    private static final int FIRST_STRENGTH = 5;
     private static final int TOP = 9;
     private static final int SETS = 16;
     private static final int MOST_UNDONE = 10;
@@ -46,8 +47,10 @@ public final class FordLine {
     private static final int STRENGTHS_AT = 12;
     private static final int DEPTHS_AT = 28;
     private static final int PLACING = 4095;
+    private static final int ALL_STRENGTHS = 0xffff;
 
-    private final Reader reader = new Reader();
+    private final Tape tape = new Tape();
+    private final Reader reader = new Reader(tape);
     private River told = new River();
     private long now = 0L;
     private final long[] past = new long[MOST_UNDONE];
@@ -61,6 +64,7 @@ public final class FordLine {
     private final Tray[] trays = new Tray[TRAYS];
     private final River[] imageRivers = new River[IMAGES];
     private final long[] imageMoments = new long[IMAGES];
+    private int drawn = 0;
 
     public FordLine() {
         for (int i = 0; i < TRAYS; i++) {
@@ -71,22 +75,23 @@ public final class FordLine {
     // ---- the river
 
     public int feed(int a, int b, int c, int d, int e) {
-        if (reader.fed + FED_AT_ONCE > Reader.TAPE) {
+        if (tape.fed + FED_AT_ONCE > Tape.ROOM) {
             return NOT_NOW;
         }
-        reader.take(a);
-        reader.take(b);
-        reader.take(c);
-        reader.take(d);
-        reader.take(e);
-        return reader.fed;
+        tape.take(a);
+        tape.take(b);
+        tape.take(c);
+        tape.take(d);
+        tape.take(e);
+        return tape.fed;
     }
 
     public int river(int n) {
-        if (n < 0 || n > reader.fed) {
+        if (n < 0 || n > tape.fed) {
             return BAD_NUMBER;
         }
-        River draft = reader.read(n);
+        tape.cut(n);
+        River draft = reader.read();
         if (draft == null) {
             return FAULTY - reader.fault;
         }
@@ -112,7 +117,7 @@ public final class FordLine {
             case 1: return told.reaches[p];
             case 2: return strengthOf(now, p);
             case 3: return told.families[p];
-            case 4: return fordAt(now).spread(placingOf(now), p, told.reaches[p]);
+            case 4: return fordAt(now).spread(placingOf(now), p, told.reaches[p], MOST_PLACES);
             default: return NO_SUCH;
         }
     }
@@ -154,10 +159,13 @@ public final class FordLine {
         if (!told.isPerson(p) || !told.isPlace(to)) {
             return NO_SUCH;
         }
-        if (whyNotGo(now, p, to) != 0) {
-            return NONE;
+        fordAt(now);
+        for (int many = 1; many <= MOST_PLACES; many++) {
+            if (hasBit(ford.spread(placingOf(now), p, told.reaches[p], many), to)) {
+                return many;
+            }
         }
-        return ford.stepsTo[to];
+        return NONE;
     }
 
     // ---- deeds
@@ -245,11 +253,11 @@ public final class FordLine {
         if (times < 1 || times > MOST_TIMES) {
             return BAD_NUMBER;
         }
-        Draws draws = new Draws(seed);
+        drawn = seed;
         long then = now;
         int could = 0;
         for (int i = 0; i < times; i++) {
-            int deed = draws.deed();
+            int deed = drawDeed();
             if (whyNot(then, deed) == 0) {
                 then = done(then, deed);
                 could++;
@@ -285,7 +293,11 @@ public final class FordLine {
             return BAD_NUMBER;
         }
         goings.attune(told, now);
-        return tally.rowsTo(placingOf(now), set, n);
+        tally.begin(placingOf(now));
+        for (int i = 0; i < n; i++) {
+            tally.goOn();
+        }
+        return tally.rowsTo(set);
     }
 
     public int needed(int set) {
@@ -326,7 +338,7 @@ public final class FordLine {
     public int most() {
         exploreAll();
         int most = 0;
-        for (int i = 0; i < search.found(); i++) {
+        for (int i = 0; i < search.found; i++) {
             most = Math.max(most, Integer.bitCount(told.over(search.placingAt(i))));
         }
         return most;
@@ -338,7 +350,7 @@ public final class FordLine {
         }
         exploreAll();
         int bits = 0;
-        for (int i = 0; i < search.found(); i++) {
+        for (int i = 0; i < search.found; i++) {
             bits |= 1 << placeOf(search.placingAt(i), p);
         }
         return bits;
@@ -346,7 +358,7 @@ public final class FordLine {
 
     public int stands() {
         exploreAll();
-        return search.found();
+        return search.found;
     }
 
     public int stride(int p) {
@@ -358,7 +370,7 @@ public final class FordLine {
         }
         fordAt(now);
         for (int reach = 1; reach <= MOST_STRIDE; reach++) {
-            if (hasBit(ford.spread(placingOf(now), p, reach), told.farBank())) {
+            if (hasBit(ford.spread(placingOf(now), p, reach, MOST_PLACES), told.farBank())) {
                 return reach;
             }
         }
@@ -399,16 +411,8 @@ public final class FordLine {
         if (!isDigit(water)) {
             return BAD_NUMBER;
         }
-        fordAt(now);
-        int placing = placingOf(now);
-        for (int look = 0; look <= MOST_PEOPLE; look++) {
-            int gone = ford.sweptAtOnce(placing, water);
-            if (gone == 0) {
-                return look;
-            }
-            placing = sentBack(placing, gone);
-        }
-        return MOST_PEOPLE;
+        fordAt(now).flooded(placingOf(now), water);
+        return ford.looksTaken;
     }
 
     // ---- orders
@@ -488,6 +492,7 @@ public final class FordLine {
             return NO_SUCH;
         }
         goings.attune(told, now);
+        forcing.explore(placingOf(now));
         return forcing.turnsFor(placingOf(now), p);
     }
 
@@ -496,6 +501,7 @@ public final class FordLine {
             return NO_SUCH;
         }
         goings.attune(told, now);
+        forcing.explore(placingOf(now));
         int turns = forcing.turnsFor(placingOf(now), p);
         return turns < 1 ? NONE : forcing.firstGoing(placingOf(now), turns);
     }
@@ -603,7 +609,7 @@ public final class FordLine {
             case 4: return allStrengths();
             case 5: return told.tide;
             case 6: return undoable;
-            case 7: return reader.fed;
+            case 7: return tape.fed;
             case 8: return told.lines;
             default: return NONE;
         }
@@ -690,7 +696,6 @@ public final class FordLine {
         now = then;
     }
 
-    /** Leaves the STEPS in ford.stepsTo if it can. */
     private int whyNotGo(long moment, int p, int to) {
         if (!told.isPerson(p) || !told.isPlace(to)) {
             return WHY_NO_SUCH;
@@ -699,7 +704,7 @@ public final class FordLine {
         if (placeOf(moment, p) == to || (told.isSpot(to) && told.whoIsAt(placing, to) != NONE)) {
             return WHY_TAKEN;
         }
-        int ends = fordAt(moment).spread(placing, p, told.reaches[p]);
+        int ends = fordAt(moment).spread(placing, p, told.reaches[p], MOST_PLACES);
         return hasBit(ends, to) ? 0 : WHY_NO_STEPS;
     }
 
@@ -729,6 +734,20 @@ public final class FordLine {
             case 2: return withStrength(moment, whom, n);
             default: return withDepth(moment, whom, n);
         }
+    }
+
+    private int draw() {
+        drawn = 1103515245 * drawn + 12345;
+        return drawn >>> 16;
+    }
+
+    private int drawDeed() {
+        int kind = draw() % 6;
+        if (kind == 4) {
+            return FLOODS + draw() % 10;
+        }
+        int p = draw() % 4;
+        return kind == 5 ? STRENGTHENINGS + 10 * p + draw() % 10 : 10 * p + draw() % 8;
     }
 
     private int doable(Tray deeds) {
@@ -846,7 +865,7 @@ public final class FordLine {
         int bits = 0;
         for (int p = 0; p < told.people; p++) {
             if (hasBit(waiting, p)
-                    && hasBit(ford.spread(before, p, told.reaches[p]), placeOf(placing, p))) {
+                    && hasBit(ford.spread(before, p, told.reaches[p], MOST_PLACES), placeOf(placing, p))) {
                 bits |= 1 << p;
             }
         }
@@ -994,30 +1013,28 @@ public final class FordLine {
         }
     }
 
-    /** THE TAPE, and how a text on it is read. */
-    private static final class Reader {
-        private static final int TAPE = 900;
-        private static final int MOST_NESTED = 6;
+    /** THE TAPE, and its text as TOKENS. */
+    private static final class Tape {
+        private static final int ROOM = 900;
 
-        private static final int NO_TOKEN = 1;
-        private static final int CANT_STAND = 2;
-        private static final int OUT_OF_BOUNDS = 3;
-        private static final int TOO_MUCH = 4;
-
-        /** Signs are their own tokens, by their bytes; these stay apart from them. */
+        /** Signs are their own tokens, by their bytes; these and the words stay apart from them. */
         private static final int END = 0;
         private static final int BAD = 1;
         private static final int NUMBER = 2;
         private static final int OTHER_WORD = 3;
         private static final String SIGNS = ";:+-*()[]=<>";
 
-        /** Each word ends with a blank; the first ones are those that laws can ask for, in Law's order. */
+        /** Each ends with a blank and is the token WHO and so many; the first ones are what laws can ask. */
         private static final String WORDS = "who strength spot depth beside water family theirs stone gap river tide person reach at holds trusts or and not ";
         private static final int WHO = 128;
         private static final int STRENGTH = 129;
+        private static final int SPOT = 130;
         private static final int DEPTH = 131;
+        private static final int BESIDE = 132;
         private static final int WATER = 133;
         private static final int FAMILY = 134;
+        private static final int THEIRS = 135;
+        private static final int STONE = 136;
         private static final int GAP = 137;
         private static final int RIVER = 138;
         private static final int TIDE = 139;
@@ -1030,73 +1047,161 @@ public final class FordLine {
         private static final int AND = 146;
         private static final int NOT = 147;
 
-        private final byte[] tape = new byte[TAPE];
+        private final byte[] bytes = new byte[ROOM];
         private int fed = 0;
         private int end = 0;
-        private int next = 0;
-        private int token = END;
-        private int number = 0;
-        private int place = 0;
-        private int fault = 0;
-        private int faultPlace = NONE;
-        private River draft = null;
-        private int law = HOLDS;
-        private final int[] code = new int[TAPE];
-        private int codes = 0;
+        private final int[] tokens = new int[ROOM + 1];
+        private final int[] places = new int[ROOM + 1];
+        private int many = 0;
 
         private void take(int four) {
             for (int shift = 24; shift >= 0; shift -= 8) {
-                if (fed < TAPE) {
-                    tape[fed] = (byte) (four >>> shift);
+                if (fed < ROOM) {
+                    bytes[fed] = (byte) (four >>> shift);
                     fed++;
                 }
             }
         }
 
-        /** THE RIVER that the first n bytes tell, or null with a FAULT. */
-        private River read(int n) {
-            end = Math.min(n, TAPE);
-            next = 0;
+        /** Cuts the first n bytes into tokens, the last one END; THE TAPE is empty then. */
+        private void cut(int n) {
+            end = Math.min(n, fed);
             fed = 0;
+            many = 0;
+            int next = 0;
+            while (next < end) {
+                int from = next;
+                next++;
+                int first = bytes[from] & 255;
+                if (isLetter(from)) {
+                    while (next < end && isLetter(next)) {
+                        next++;
+                    }
+                    add(wordBetween(from, next), from);
+                } else if (isNumeral(from)) {
+                    while (next < end && isNumeral(next)) {
+                        next++;
+                    }
+                    add(next - from > 3 ? BAD : NUMBER, from);
+                } else if (first != ' ' && first != '\n') {
+                    add(SIGNS.indexOf((char) first) >= 0 ? first : BAD, from);
+                }
+            }
+            add(END, end);
+        }
+
+        private void add(int token, int place) {
+            if (many < tokens.length) {
+                tokens[many] = token;
+                places[many] = place;
+                many++;
+            }
+        }
+
+        private boolean isNumeral(int i) {
+            return bytes[i] >= '0' && bytes[i] <= '9';
+        }
+
+        private boolean isLetter(int i) {
+            return bytes[i] >= 'a' && bytes[i] <= 'z';
+        }
+
+        private int wordBetween(int from, int to) {
+            int word = WHO;
+            int begin = 0;
+            for (int i = 0; i < WORDS.length(); i++) {
+                if (WORDS.charAt(i) == ' ') {
+                    if (i - begin == to - from && isWord(begin, i, from)) {
+                        return word;
+                    }
+                    word++;
+                    begin = i + 1;
+                }
+            }
+            return OTHER_WORD;
+        }
+
+        private boolean isWord(int begin, int stop, int from) {
+            for (int i = begin; i < stop; i++) {
+                if (WORDS.charAt(i) != bytes[from + i - begin]) {
+                    return false;
+                }
+            }
+            return true;
+        }
+
+        /** The number that a token NUMBER is. */
+        private int numberAt(int i) {
+            int number = 0;
+            int from = places[i];
+            for (int at = from; at < end && at < from + 3 && isNumeral(at); at++) {
+                number = 10 * number + bytes[at] - '0';
+            }
+            return number;
+        }
+    }
+
+    /** How THE RIVER is read from the tokens. */
+    private static final class Reader {
+        private static final int MOST_NESTED = 6;
+
+        private static final int NO_TOKEN = 1;
+        private static final int CANT_STAND = 2;
+        private static final int OUT_OF_BOUNDS = 3;
+        private static final int TOO_MUCH = 4;
+
+        private final Tape tape;
+        private int at = 0;
+        private int token = Tape.END;
+        private int fault = 0;
+        private int faultPlace = NONE;
+        private River draft = null;
+        private int law = Tape.HOLDS;
+        private final int[] code = new int[Tape.ROOM];
+        private int codes = 0;
+
+        private Reader(Tape tape) {
+            this.tape = tape;
+        }
+
+        /** THE RIVER that the tokens tell, or null with a FAULT. */
+        private River read() {
             fault = 0;
             faultPlace = NONE;
             draft = new River();
-            advance();
-            readSpots();
-            for (int i = 0; i < end && fault == 0 && token != END; i++) {
+            at = 0;
+            token = tape.tokens[0];
+            expect(Tape.RIVER);
+            draft.spots = readNumber(1, MOST_SPOTS);
+            endLine();
+            for (int i = 0; i < tape.many && fault == 0 && token != Tape.END; i++) {
                 readLine();
+                endLine();
             }
             return fault == 0 ? draft : null;
         }
 
-        private void readSpots() {
-            expect(RIVER);
-            draft.spots = readNumber(1, MOST_SPOTS);
-            endLine();
-        }
-
         private void readLine() {
             switch (token) {
-                case DEPTH:
+                case Tape.DEPTH:
                     advance();
                     readDepths();
                     break;
-                case TIDE:
+                case Tape.TIDE:
                     advance();
                     draft.tide = readNumber(0, TOP);
                     break;
-                case PERSON:
+                case Tape.PERSON:
                     readPerson();
                     break;
-                case HOLDS:
-                case TRUSTS:
+                case Tape.HOLDS:
+                case Tape.TRUSTS:
                     readLaw();
                     break;
                 default:
                     refuse(CANT_STAND);
                     break;
             }
-            endLine();
         }
 
         private void endLine() {
@@ -1117,11 +1222,11 @@ public final class FordLine {
             }
             int p = draft.people;
             advance();
-            expect(REACH);
+            expect(Tape.REACH);
             draft.reaches[p] = readNumber(1, MOST_REACH);
-            draft.start = withStrength(draft.start, p, 5);
+            draft.start = withStrength(draft.start, p, FIRST_STRENGTH);
             boolean more = true;
-            for (int i = 0; i < end && more; i++) {
+            for (int i = 0; i < tape.many && more; i++) {
                 more = readFlag(p);
             }
             draft.people++;
@@ -1129,30 +1234,33 @@ public final class FordLine {
 
         private boolean readFlag(int p) {
             switch (token) {
-                case STRENGTH:
+                case Tape.STRENGTH:
                     advance();
                     draft.start = withStrength(draft.start, p, readNumber(0, TOP));
                     return true;
-                case FAMILY:
+                case Tape.FAMILY:
                     advance();
                     draft.families[p] = readNumber(0, TOP);
                     return true;
-                case AT:
+                case Tape.AT:
                     advance();
-                    draft.start = withPlace(draft.start, p, readPlace());
+                    refuseTakenSpot();
+                    draft.start = withPlace(draft.start, p, readNumber(0, draft.farBank()));
                     return true;
                 default:
                     return false;
             }
         }
 
-        /** PEOPLE told ahead are those that the draft counts already. */
-        private int readPlace() {
-            if (token == NUMBER && draft.isSpot(number)
-                    && draft.whoIsAt(placingOf(draft.start), number) != NONE) {
+        /** The draft counts only PEOPLE told ahead, not the one being told. */
+        private void refuseTakenSpot() {
+            if (token != Tape.NUMBER) {
+                return;
+            }
+            int place = tape.numberAt(at);
+            if (draft.isSpot(place) && draft.whoIsAt(placingOf(draft.start), place) != NONE) {
                 refuse(OUT_OF_BOUNDS);
             }
-            return readNumber(0, draft.farBank());
         }
 
         private void readLaw() {
@@ -1161,7 +1269,7 @@ public final class FordLine {
             advance();
             expect(':');
             readTruth(0);
-            if (law == HOLDS) {
+            if (law == Tape.HOLDS) {
                 draft.holdsLaw = Arrays.copyOf(code, codes);
             } else {
                 draft.trustsLaw = Arrays.copyOf(code, codes);
@@ -1170,53 +1278,51 @@ public final class FordLine {
 
         private void readTruth(int nested) {
             readBoth(nested);
-            for (int i = 0; i < end && token == OR; i++) {
+            for (int i = 0; i < tape.many && token == Tape.OR; i++) {
                 advance();
                 readBoth(nested);
-                emit(Law.OPERATOR + OR);
+                emit(Law.OPERATOR + Tape.OR);
             }
         }
 
         private void readBoth(int nested) {
             readUnit(nested);
-            for (int i = 0; i < end && token == AND; i++) {
+            for (int i = 0; i < tape.many && token == Tape.AND; i++) {
                 advance();
                 readUnit(nested);
-                emit(Law.OPERATOR + AND);
+                emit(Law.OPERATOR + Tape.AND);
             }
         }
 
         private void readUnit(int nested) {
-            if (token == NOT) {
-                if (enter(nested)) {
+            if (token == Tape.NOT) {
+                if (canEnter(nested)) {
                     readUnit(nested + 1);
-                    emit(Law.OPERATOR + NOT);
+                    emit(Law.OPERATOR + Tape.NOT);
                 }
-            } else if (token == '[') {
-                if (enter(nested)) {
+                return;
+            }
+            if (token == '[') {
+                if (canEnter(nested)) {
                     readTruth(nested + 1);
                     expect(']');
                 }
-            } else {
-                readComparison(nested);
-            }
-        }
-
-        private void readComparison(int nested) {
-            readSum(nested);
-            int sign = token;
-            if (sign != '=' && sign != '<' && sign != '>') {
-                refuse(CANT_STAND);
                 return;
             }
-            advance();
             readSum(nested);
-            emit(Law.OPERATOR + sign);
+            int sign = token;
+            if (sign == '=' || sign == '<' || sign == '>') {
+                advance();
+                readSum(nested);
+                emit(Law.OPERATOR + sign);
+            } else {
+                refuse(CANT_STAND);
+            }
         }
 
         private void readSum(int nested) {
             readTerm(nested);
-            for (int i = 0; i < end && (token == '+' || token == '-'); i++) {
+            for (int i = 0; i < tape.many && (token == '+' || token == '-'); i++) {
                 int sign = token;
                 advance();
                 readTerm(nested);
@@ -1226,7 +1332,7 @@ public final class FordLine {
 
         private void readTerm(int nested) {
             readAtom(nested);
-            for (int i = 0; i < end && token == '*'; i++) {
+            for (int i = 0; i < tape.many && token == '*'; i++) {
                 advance();
                 readAtom(nested);
                 emit(Law.OPERATOR + '*');
@@ -1234,34 +1340,32 @@ public final class FordLine {
         }
 
         private void readAtom(int nested) {
-            if (token == NUMBER) {
-                emit(number);
+            if (token == Tape.NUMBER) {
+                emit(tape.numberAt(at));
                 advance();
             } else if (isAskedByLaw()) {
-                emit(WHO - 1 - token);
+                emit(Tape.WHO - 1 - token);
                 advance();
-            } else if (token == '(') {
-                if (enter(nested)) {
-                    readSum(nested + 1);
-                    expect(')');
-                }
-            } else {
+            } else if (token != '(') {
                 refuse(CANT_STAND);
+            } else if (canEnter(nested)) {
+                readSum(nested + 1);
+                expect(')');
             }
         }
 
         private boolean isAskedByLaw() {
-            if (token == WHO || token == STRENGTH) {
+            if (token == Tape.WHO || token == Tape.STRENGTH) {
                 return true;
             }
-            if (law == HOLDS) {
-                return token > STRENGTH && token <= WATER;
+            if (law == Tape.HOLDS) {
+                return token >= Tape.SPOT && token <= Tape.WATER;
             }
-            return token >= FAMILY && token <= GAP;
+            return token >= Tape.FAMILY && token <= Tape.GAP;
         }
 
-        /** Goes into what not, [ or ( opens, unless it is too deep. */
-        private boolean enter(int nested) {
+        /** Goes into what not, [ or ( opens, unless that is too deep. */
+        private boolean canEnter(int nested) {
             if (nested >= MOST_NESTED) {
                 refuse(TOO_MUCH);
                 return false;
@@ -1278,17 +1382,17 @@ public final class FordLine {
         }
 
         private int readNumber(int low, int high) {
-            if (token != NUMBER) {
+            if (token != Tape.NUMBER) {
                 refuse(CANT_STAND);
                 return low;
             }
+            int number = tape.numberAt(at);
             if (number < low || number > high) {
                 refuse(OUT_OF_BOUNDS);
                 return low;
             }
-            int read = number;
             advance();
-            return read;
+            return number;
         }
 
         private void expect(int wanted) {
@@ -1299,87 +1403,24 @@ public final class FordLine {
             }
         }
 
-        /** Only the first FAULT counts; a token that nothing accepts keeps the rest from being read. */
+        /** Only the first FAULT counts; from then on there is a token that nothing accepts. */
         private void refuse(int kind) {
             if (fault == 0) {
-                fault = token == BAD ? NO_TOKEN : kind;
-                faultPlace = place;
+                fault = token == Tape.BAD ? NO_TOKEN : kind;
+                faultPlace = tape.places[at];
             }
-            token = BAD;
+            token = Tape.BAD;
         }
 
         private void advance() {
-            if (fault != 0) {
-                return;
+            if (fault == 0 && at + 1 < tape.many) {
+                at++;
+                token = tape.tokens[at];
             }
-            while (next < end && (tape[next] == ' ' || tape[next] == '\n')) {
-                next++;
-            }
-            place = next;
-            if (next >= end) {
-                token = END;
-            } else if (isNumeral(next)) {
-                takeNumber();
-            } else if (isLetter(next)) {
-                takeWord();
-            } else {
-                int sign = tape[next] & 255;
-                token = SIGNS.indexOf((char) sign) >= 0 ? sign : BAD;
-                next++;
-            }
-        }
-
-        private boolean isNumeral(int i) {
-            return i >= 0 && i < end && tape[i] >= '0' && tape[i] <= '9';
-        }
-
-        private boolean isLetter(int i) {
-            return i >= 0 && i < end && tape[i] >= 'a' && tape[i] <= 'z';
-        }
-
-        private void takeNumber() {
-            number = 0;
-            while (next < end && isNumeral(next)) {
-                if (next - place < 3) {
-                    number = 10 * number + tape[next] - '0';
-                }
-                next++;
-            }
-            token = next - place <= 3 ? NUMBER : BAD;
-        }
-
-        private void takeWord() {
-            while (next < end && isLetter(next)) {
-                next++;
-            }
-            token = OTHER_WORD;
-            int word = WHO;
-            int begin = 0;
-            for (int i = 0; i < WORDS.length(); i++) {
-                if (WORDS.charAt(i) == ' ') {
-                    if (isWord(begin, i)) {
-                        token = word;
-                    }
-                    word++;
-                    begin = i + 1;
-                }
-            }
-        }
-
-        private boolean isWord(int begin, int stop) {
-            if (stop - begin != next - place) {
-                return false;
-            }
-            for (int i = begin; i < stop; i++) {
-                if (WORDS.charAt(i) != tape[place + i - begin]) {
-                    return false;
-                }
-            }
-            return true;
         }
     }
 
-    /** Asks a law, kept as its codes in the order in which a stack needs them. */
+    /** Asks a law, kept as codes in the order in which a stack needs them. */
     private static final class Law {
         /** Codes below 0 ask (-1 who, -2 strength, ..), those from here on are operators, others numbers. */
         private static final int OPERATOR = 1000;
@@ -1390,8 +1431,8 @@ public final class FordLine {
         private final int[] asked = new int[10];
 
         private void tell(int word, int value) {
-            if (word >= Reader.WHO && word - Reader.WHO < asked.length) {
-                asked[word - Reader.WHO] = value;
+            if (word >= Tape.WHO && word - Tape.WHO < asked.length) {
+                asked[word - Tape.WHO] = value;
             }
         }
 
@@ -1399,43 +1440,38 @@ public final class FordLine {
             int top = 0;
             for (int i = 0; i < codes.length; i++) {
                 int code = codes[i];
-                if (code == OPERATOR + Reader.NOT) {
+                if (code < OPERATOR) {
+                    if (top < stack.length && -1 - code < asked.length) {
+                        stack[top] = code >= 0 ? code : asked[-1 - code];
+                        top++;
+                    }
+                    continue;
+                }
+                if (code == OPERATOR + Tape.NOT) {
                     if (top > 0) {
                         stack[top - 1] = 1 - stack[top - 1];
                     }
-                } else if (code >= OPERATOR) {
-                    if (top > 1) {
-                        top--;
-                        stack[top - 1] = joined(code - OPERATOR, stack[top - 1], stack[top]);
-                    }
-                } else if (top < stack.length) {
-                    stack[top] = valueOf(code);
-                    top++;
+                    continue;
                 }
+                if (top < 2) {
+                    return false;
+                }
+                top--;
+                long a = stack[top - 1];
+                long b = stack[top];
+                switch (code - OPERATOR) {
+                    case '+': a = a + b; break;
+                    case '-': a = a - b; break;
+                    case '*': a = a * b; break;
+                    case '=': a = a == b ? 1 : 0; break;
+                    case '<': a = a < b ? 1 : 0; break;
+                    case '>': a = a > b ? 1 : 0; break;
+                    case Tape.AND: a = a & b; break;
+                    default: a = a | b; break;
+                }
+                stack[top - 1] = (int) Math.max(-KEPT, Math.min(KEPT, a));
             }
             return top > 0 && stack[0] != 0;
-        }
-
-        private int valueOf(int code) {
-            if (code >= 0) {
-                return code;
-            }
-            return -1 - code < asked.length ? asked[-1 - code] : 0;
-        }
-
-        private static int joined(int sign, long a, long b) {
-            long joint;
-            switch (sign) {
-                case '+': joint = a + b; break;
-                case '-': joint = a - b; break;
-                case '*': joint = a * b; break;
-                case '=': joint = a == b ? 1 : 0; break;
-                case '<': joint = a < b ? 1 : 0; break;
-                case '>': joint = a > b ? 1 : 0; break;
-                case Reader.AND: joint = a & b; break;
-                default: joint = a | b; break;
-            }
-            return (int) Math.max(-KEPT, Math.min(KEPT, joint));
         }
     }
 
@@ -1448,8 +1484,7 @@ public final class FordLine {
         private final int[] trustTold = new int[MOST_PEOPLE * MOST_PEOPLE];
         private final int[] holdKnown = new int[MOST_PEOPLE * MOST_PLACES * 4];
         private final int[] holdTold = new int[MOST_PEOPLE * MOST_PLACES * 4];
-        private final int[] stones = new int[MOST_PLACES];
-        private final int[] stepsTo = new int[MOST_PLACES];
+        private int looksTaken = 0;
 
         private void attune(River newRiver, long newMoment) {
             boolean other = river != newRiver;
@@ -1459,7 +1494,7 @@ public final class FordLine {
             if (other || (changed >>> STRENGTHS_AT) != 0) {
                 Arrays.fill(holdKnown, 0);
             }
-            if (other || (changed >>> STRENGTHS_AT & 0xffff) != 0) {
+            if (other || (changed >>> STRENGTHS_AT & ALL_STRENGTHS) != 0) {
                 Arrays.fill(trustKnown, 0);
             }
         }
@@ -1470,12 +1505,12 @@ public final class FordLine {
             }
             int at = p * MOST_PEOPLE + q;
             if (!hasBit(trustKnown[at], gap)) {
-                law.tell(Reader.WHO, p);
-                law.tell(Reader.STRENGTH, strengthOf(moment, p));
-                law.tell(Reader.FAMILY, river.families[p]);
-                law.tell(Reader.FAMILY + 1, river.families[q]);
-                law.tell(Reader.FAMILY + 2, strengthOf(moment, q));
-                law.tell(Reader.GAP, gap);
+                law.tell(Tape.WHO, p);
+                law.tell(Tape.STRENGTH, strengthOf(moment, p));
+                law.tell(Tape.FAMILY, river.families[p]);
+                law.tell(Tape.THEIRS, river.families[q]);
+                law.tell(Tape.STONE, strengthOf(moment, q));
+                law.tell(Tape.GAP, gap);
                 int bit = 1 << gap;
                 trustKnown[at] |= bit;
                 trustTold[at] = law.isTrue(river.trustsLaw) ? trustTold[at] | bit : trustTold[at] & ~bit;
@@ -1498,12 +1533,12 @@ public final class FordLine {
             if (river.holdsLaw == null) {
                 return water <= strength;
             }
-            law.tell(Reader.WHO, p);
-            law.tell(Reader.STRENGTH, strength);
-            law.tell(Reader.STRENGTH + 1, place);
-            law.tell(Reader.DEPTH, depthOf(moment, place));
-            law.tell(Reader.DEPTH + 1, beside);
-            law.tell(Reader.WATER, water);
+            law.tell(Tape.WHO, p);
+            law.tell(Tape.STRENGTH, strength);
+            law.tell(Tape.SPOT, place);
+            law.tell(Tape.DEPTH, depthOf(moment, place));
+            law.tell(Tape.BESIDE, beside);
+            law.tell(Tape.WATER, water);
             return law.isTrue(river.holdsLaw);
         }
 
@@ -1511,84 +1546,61 @@ public final class FordLine {
             return (taken >> (place - 1) & 1) + (taken >> (place + 1) & 1);
         }
 
-        /** PLACES to which p can GO by a REACH, as bits; how few STEPS each takes is left in stepsTo. */
-        private int spread(int placing, int p, int reach) {
-            Arrays.fill(stepsTo, 0);
-            setStones(placing);
-            int from = placeOf(placing, p);
-            int seen = 1 << from;
-            int edge = seen;
+        /** PLACES to which p can GO by a REACH in so many STEPS at most, as bits. */
+        private int spread(int placing, int p, int reach, int most) {
+            int far = river.farBank();
+            int taken = river.spotsTaken(placing);
+            int edge = 1 << placeOf(placing, p);
+            int seen = edge;
             int ends = 0;
-            for (int many = 1; many <= MOST_PLACES && edge != 0; many++) {
-                int next = 0;
-                for (int to = 0; to <= river.farBank(); to++) {
-                    int near = edge & within(to, reach);
-                    if (near == 0 || hasBit(seen | ends, to)) {
-                        continue;
-                    }
-                    if (stones[to] == NONE) {
-                        ends |= 1 << to;
-                        stepsTo[to] = many;
-                        next |= isBank(to) ? 1 << to : 0;
-                    } else if (isTrustedFrom(p, near, to)) {
-                        next |= 1 << to;
-                    }
+            for (int many = 0; many < most && edge != 0; many++) {
+                int touched = 0;
+                for (int gap = 1; gap <= reach; gap++) {
+                    touched |= edge << gap | edge >> gap;
                 }
-                seen |= next;
-                edge = next;
+                touched &= ((2 << far) - 1) & ~seen;
+                ends |= touched & ~taken;
+                edge = touched & (1 | 1 << far) | trustedOf(placing, p, touched & taken, edge, reach);
+                seen |= edge;
             }
             return ends;
         }
 
-        private boolean isBank(int place) {
-            return place == 0 || place == river.farBank();
-        }
-
-        private void setStones(int placing) {
-            Arrays.fill(stones, NONE);
+        /** On which of some stones p trusts to step, by its reach, from one of the PLACES in edge, all as bits. */
+        private int trustedOf(int placing, int p, int stones, int edge, int reach) {
+            if (stones == 0 || river.trustsLaw == null) {
+                return stones;
+            }
+            int trusted = 0;
             for (int q = 0; q < river.people; q++) {
                 int place = placeOf(placing, q);
-                if (!isBank(place)) {
-                    stones[place] = q;
+                if (!hasBit(stones, place)) {
+                    continue;
+                }
+                for (int from = Math.max(0, place - reach); from <= place + reach; from++) {
+                    if (hasBit(edge, from) && trusting(p, q, Math.abs(place - from))) {
+                        trusted |= 1 << place;
+                        break;
+                    }
                 }
             }
+            return trusted;
         }
 
-        private static int within(int place, int reach) {
-            return ((1 << (2 * reach + 1)) - 1) << place >> reach;
-        }
-
-        private boolean isTrustedFrom(int p, int near, int to) {
-            for (int from = 0; from < MOST_PLACES; from++) {
-                if (hasBit(near, from) && trusting(p, stones[to], Math.abs(to - from))) {
-                    return true;
-                }
-            }
-            return false;
-        }
-
-        /** Who is swept by one look of a FLOOD, as bits. */
-        private int sweptAtOnce(int placing, int water) {
-            int taken = river.spotsTaken(placing);
-            int gone = 0;
-            for (int p = 0; p < river.people; p++) {
-                int place = placeOf(placing, p);
-                if (river.isSpot(place) && !holding(p, place, besideOf(taken, place), water)) {
-                    gone |= 1 << p;
-                }
-            }
-            return gone;
-        }
-
-        /** Where all are behind a FLOOD. */
+        /** Where all are behind a FLOOD; how many looks swept somebody is left in looksTaken. */
         private int flooded(int placing, int water) {
             int left = placing;
-            for (int look = 0; look < MOST_PEOPLE; look++) {
-                int gone = sweptAtOnce(left, water);
-                if (gone == 0) {
-                    break;
+            looksTaken = 0;
+            for (int look = 0; look < MOST_PEOPLE && look == looksTaken; look++) {
+                int ahead = left;
+                int taken = river.spotsTaken(ahead);
+                for (int p = 0; p < river.people; p++) {
+                    int place = placeOf(ahead, p);
+                    if (hasBit(taken, place) && !holding(p, place, besideOf(taken, place), water)) {
+                        left = moved(left, p, 0);
+                        looksTaken = look + 1;
+                    }
                 }
-                left = sentBack(left, gone);
             }
             return left;
         }
@@ -1596,13 +1608,15 @@ public final class FordLine {
 
     /** To which PLACES each can GO, kept by where all are: eight bits for each PERSON. */
     private static final class Goings {
-        /** Nobody can GO to where it is, so all bits can't be set. */
+        /** Nobody can GO to where it is, so not all bits can be set. */
         private static final int UNKNOWN = -1;
 
         private final Ford ford;
-        private River river = null;
-        private int strengthBits = 0;
+        private River river = new River();
+        private int strengthBits = NONE;
         private int[] ends = new int[0];
+        /** Grows whenever GOINGS may have become others. */
+        private int version = 0;
 
         private Goings(Ford ford) {
             this.ford = ford;
@@ -1610,64 +1624,75 @@ public final class FordLine {
 
         private void attune(River newRiver, long moment) {
             ford.attune(newRiver, moment);
-            int newStrengths = (int) (moment >>> STRENGTHS_AT & 0xffff);
+            int newStrengths = (int) (moment >>> STRENGTHS_AT & ALL_STRENGTHS);
             if (river == newRiver && strengthBits == newStrengths) {
                 return;
             }
             river = newRiver;
             strengthBits = newStrengths;
+            version++;
             if (ends.length < placings()) {
                 ends = new int[placings()];
             }
-            Arrays.fill(ends, 0, placings(), UNKNOWN);
+            Arrays.fill(ends, UNKNOWN);
         }
 
         private int placings() {
-            return 1 << (3 * people());
-        }
-
-        private int people() {
-            return river == null ? 0 : river.people;
-        }
-
-        private int farBank() {
-            return river == null ? 0 : river.farBank();
-        }
-
-        private int over(int placing) {
-            return river == null ? 0 : river.over(placing);
-        }
-
-        private int behindTide(int placing) {
-            return river == null ? placing : ford.flooded(placing, river.tide);
+            return 1 << (3 * river.people);
         }
 
         private int endsOf(int placing) {
-            if (river == null || placing < 0 || placing >= ends.length) {
+            if (placing < 0 || placing >= ends.length) {
                 return 0;
             }
             if (ends[placing] == UNKNOWN) {
                 int all = 0;
                 for (int p = 0; p < river.people; p++) {
-                    all |= ford.spread(placing, p, river.reaches[p]) << (8 * p);
+                    all |= ford.spread(placing, p, river.reaches[p], MOST_PLACES) << (8 * p);
                 }
                 ends[placing] = all;
             }
             return ends[placing];
         }
+
+        /** What endsOf answered before, without asking again. */
+        private int endsKept(int placing) {
+            return placing < 0 || placing >= ends.length || ends[placing] == UNKNOWN ? 0 : ends[placing];
+        }
+
+        /** Bits of endsOf, one for each GOING, are in the order of the DEEDS. */
+        private static int deedOf(int bit) {
+            return 10 * (bit >> 3) + (bit & 7);
+        }
+
+        private static int gone(int placing, int bit) {
+            return moved(placing, bit >> 3, bit & 7);
+        }
+
+        private static int bitsOf(int movers) {
+            int bits = 0;
+            for (int p = 0; p < MOST_PEOPLE; p++) {
+                bits |= hasBit(movers, p) ? 255 << (8 * p) : 0;
+            }
+            return bits;
+        }
     }
 
-    /** Where all can be by ROWS, found in the order of their first and fewest GOINGS. */
+    /** Where all can be by ROWS, found in the order of their fewest and first GOINGS. */
     private static final class Search {
         private static final int UNSEEN = 0;
-        private static final int FIRST = -1;
+        private static final int START = -1;
 
         private final Goings goings;
+        /** By which GOING a placing was found first: the placing ahead and 1, above it the DEED. */
         private int[] came = new int[0];
         private int[] queue = new int[0];
-        private int tail = 0;
+        private int found = 0;
         private int goal = NONE;
         private int atGoal = NONE;
+        private int lastStart = NONE;
+        private int lastMovers = 0;
+        private int lastVersion = NONE;
 
         private Search(Goings goings) {
             this.goings = goings;
@@ -1675,74 +1700,60 @@ public final class FordLine {
 
         /** The first placing found with all of a set on the far bank; for the set NONE all are found. */
         private int explore(int start, int movers, int set) {
-            begin();
+            if (set == goal && start == lastStart && movers == lastMovers && goings.version == lastVersion) {
+                return atGoal;
+            }
+            forget();
             goal = set;
-            atGoal = NONE;
-            visit(start, FIRST);
-            for (int head = 0; head < tail && head < queue.length && atGoal == NONE; head++) {
-                int ends = goings.endsOf(queue[head]);
-                for (int p = 0; p < goings.people() && atGoal == NONE; p++) {
-                    if (hasBit(movers, p)) {
-                        visitAll(queue[head], p, ends >>> (8 * p) & 255);
+            lastStart = start;
+            lastMovers = movers;
+            lastVersion = goings.version;
+            visit(start, START);
+            int moving = Goings.bitsOf(movers);
+            for (int head = 0; head < found && head < queue.length && atGoal == NONE; head++) {
+                int placing = queue[head];
+                int ends = goings.endsOf(placing) & moving;
+                for (int bit = 0; bit < 8 * MOST_PEOPLE && atGoal == NONE; bit++) {
+                    if (hasBit(ends, bit)) {
+                        visit(Goings.gone(placing, bit), placing + 1 + (Goings.deedOf(bit) << 13));
                     }
                 }
             }
             return atGoal;
         }
 
-        private void begin() {
-            for (int i = 0; i < tail; i++) {
+        private void forget() {
+            for (int i = 0; i < found; i++) {
                 came[queue[i]] = UNSEEN;
             }
-            tail = 0;
+            found = 0;
+            atGoal = NONE;
             if (came.length < goings.placings()) {
                 came = new int[goings.placings()];
                 queue = new int[goings.placings()];
             }
         }
 
-        private void visitAll(int placing, int p, int ends) {
-            for (int to = 0; to <= goings.farBank() && atGoal == NONE; to++) {
-                if (hasBit(ends, to)) {
-                    visit(moved(placing, p, to), 1 + placing + ((10 * p + to) << 13));
-                }
-            }
-        }
-
         private void visit(int placing, int by) {
-            if (placing < 0 || placing >= came.length || came[placing] != UNSEEN || tail >= queue.length) {
+            if (placing < 0 || placing >= came.length || came[placing] != UNSEEN || found >= queue.length) {
                 return;
             }
             came[placing] = by;
-            queue[tail] = placing;
-            tail++;
-            if (goal != NONE && (goings.over(placing) & goal) == goal) {
+            queue[found] = placing;
+            found++;
+            if (goal != NONE && (goings.river.over(placing) & goal) == goal) {
                 atGoal = placing;
             }
         }
 
-        private int found() {
-            return tail;
-        }
-
         private int placingAt(int i) {
-            return i >= 0 && i < tail ? queue[i] : 0;
-        }
-
-        private int before(int placing) {
-            return (came[placing] & 8191) - 1;
-        }
-
-        private boolean isFirst(int placing) {
-            return placing < 0 || placing >= came.length || came[placing] == FIRST || came[placing] == UNSEEN;
+            return i >= 0 && i < found ? queue[i] : 0;
         }
 
         /** How many GOINGS lead to the goal that was found. */
         private int rowLength() {
             int many = 0;
-            int placing = atGoal;
-            while (many < tail && !isFirst(placing)) {
-                placing = before(placing);
+            for (int placing = atGoal; many < found && hasBefore(placing); placing = before(placing)) {
                 many++;
             }
             return many;
@@ -1750,14 +1761,22 @@ public final class FordLine {
 
         private int goingAt(int i) {
             int placing = atGoal;
-            for (int left = rowLength() - 1; left > i && !isFirst(placing); left--) {
+            for (int left = rowLength() - 1; left > i; left--) {
                 placing = before(placing);
             }
-            return isFirst(placing) ? NONE : came[placing] >>> 13;
+            return hasBefore(placing) ? came[placing] >>> 13 : NONE;
+        }
+
+        private boolean hasBefore(int placing) {
+            return placing >= 0 && placing < came.length && came[placing] > UNSEEN;
+        }
+
+        private int before(int placing) {
+            return hasBefore(placing) ? (came[placing] & 8191) - 1 : NONE;
         }
     }
 
-    /** How many ROWS of so many GOINGS lead where. */
+    /** How many ROWS lead where, one GOING more each time. */
     private static final class Rows {
         private final Goings goings;
         private long[] ways = new long[0];
@@ -1771,22 +1790,6 @@ public final class FordLine {
             this.goings = goings;
         }
 
-        private long rowsTo(int start, int set, int n) {
-            begin(start);
-            for (int i = 0; i < n; i++) {
-                goOn();
-            }
-            long all = 0L;
-            for (int i = 0; i < many; i++) {
-                if ((goings.over(list[i]) & set) == set) {
-                    all += ways[list[i]];
-                }
-                ways[list[i]] = 0L;
-            }
-            many = 0;
-            return all;
-        }
-
         private void begin(int start) {
             if (ways.length < goings.placings()) {
                 ways = new long[goings.placings()];
@@ -1794,8 +1797,9 @@ public final class FordLine {
                 list = new int[goings.placings()];
                 nextList = new int[goings.placings()];
             }
+            Arrays.fill(ways, 0L);
             many = 0;
-            if (start < ways.length) {
+            if (start >= 0 && start < ways.length) {
                 ways[start] = 1L;
                 list[0] = start;
                 many = 1;
@@ -1807,29 +1811,13 @@ public final class FordLine {
             for (int i = 0; i < many; i++) {
                 int placing = list[i];
                 int ends = goings.endsOf(placing);
-                for (int p = 0; p < goings.people(); p++) {
-                    spreadWays(placing, p, ends >>> (8 * p) & 255);
+                for (int bit = 0; bit < 8 * MOST_PEOPLE; bit++) {
+                    if (hasBit(ends, bit)) {
+                        add(Goings.gone(placing, bit), ways[placing]);
+                    }
                 }
                 ways[placing] = 0L;
             }
-            swap();
-        }
-
-        private void spreadWays(int placing, int p, int ends) {
-            for (int to = 0; to <= goings.farBank(); to++) {
-                int next = moved(placing, p, to);
-                if (!hasBit(ends, to) || next >= nextWays.length) {
-                    continue;
-                }
-                if (nextWays[next] == 0L) {
-                    nextList[nextMany] = next;
-                    nextMany++;
-                }
-                nextWays[next] += ways[placing];
-            }
-        }
-
-        private void swap() {
             long[] oldWays = ways;
             ways = nextWays;
             nextWays = oldWays;
@@ -1837,6 +1825,28 @@ public final class FordLine {
             list = nextList;
             nextList = oldList;
             many = nextMany;
+        }
+
+        /** All ways are above 0 and few enough for a long: 28 to the power of 10 at most. */
+        private void add(int placing, long more) {
+            if (placing < 0 || placing >= nextWays.length) {
+                return;
+            }
+            if (nextWays[placing] == 0L && nextMany < nextList.length) {
+                nextList[nextMany] = placing;
+                nextMany++;
+            }
+            nextWays[placing] += more;
+        }
+
+        private long rowsTo(int set) {
+            long all = 0L;
+            for (int i = 0; i < many; i++) {
+                if ((goings.river.over(list[i]) & set) == set) {
+                    all += ways[list[i]];
+                }
+            }
+            return all;
         }
     }
 
@@ -1848,31 +1858,64 @@ public final class FordLine {
         private int[] floodedTo = new int[0];
         private int[] turns = new int[0];
         private int[] queue = new int[0];
-        private int tail = 0;
+        private int found = 0;
 
         private Forcing(Goings goings) {
             this.goings = goings;
         }
 
+        /** Finds all placings that GOINGS and FLOODS with the TIDE can bring. */
+        private void explore(int start) {
+            if (turns.length < goings.placings()) {
+                turns = new int[goings.placings()];
+                floodedTo = new int[goings.placings()];
+                queue = new int[goings.placings()];
+            }
+            Arrays.fill(floodedTo, NONE);
+            Arrays.fill(turns, NEVER);
+            found = 0;
+            visit(start);
+            for (int head = 0; head < found && head < queue.length; head++) {
+                int placing = queue[head];
+                int ends = goings.endsOf(placing);
+                for (int bit = 0; bit < 8 * MOST_PEOPLE; bit++) {
+                    if (hasBit(ends, bit)) {
+                        visit(Goings.gone(placing, bit));
+                    }
+                }
+                visit(floodedTo[placing]);
+            }
+        }
+
+        private void visit(int placing) {
+            if (placing < 0 || placing >= floodedTo.length || floodedTo[placing] != NONE || found >= queue.length) {
+                return;
+            }
+            floodedTo[placing] = goings.ford.flooded(placing, goings.river.tide);
+            queue[found] = placing;
+            found++;
+        }
+
         private int turnsFor(int start, int p) {
-            explore(start);
-            if (start >= turns.length) {
+            if (start < 0 || start >= turns.length) {
                 return NONE;
             }
-            for (int i = 0; i < tail; i++) {
-                turns[queue[i]] = hasBit(goings.over(queue[i]), p) ? 0 : NEVER;
+            for (int i = 0; i < found; i++) {
+                if (hasBit(goings.river.over(queue[i]), p)) {
+                    turns[queue[i]] = 0;
+                }
             }
             boolean grew = true;
-            for (int n = 1; n <= tail && grew && turns[start] == NEVER; n++) {
+            for (int n = 1; n <= found && grew && turns[start] == NEVER; n++) {
                 grew = solve(n);
             }
             return turns[start] == NEVER ? NONE : turns[start];
         }
 
-        /** Finds those who need just n turns; whether there is one. */
+        /** Finds the placings from which just n turns will do; whether there is one. */
         private boolean solve(int n) {
             boolean grew = false;
-            for (int i = 0; i < tail; i++) {
+            for (int i = 0; i < found; i++) {
                 if (turns[queue[i]] == NEVER && firstGoing(queue[i], n) != NONE) {
                     turns[queue[i]] = n;
                     grew = true;
@@ -1883,51 +1926,18 @@ public final class FordLine {
 
         /** The first GOING, or STAY, behind which fewer than n turns more will do, whatever the river does. */
         private int firstGoing(int placing, int n) {
-            int ends = goings.endsOf(placing);
-            for (int p = 0; p < goings.people(); p++) {
-                for (int to = 0; to <= goings.farBank(); to++) {
-                    if (hasBit(ends, 8 * p + to) && isWithin(moved(placing, p, to), n)) {
-                        return 10 * p + to;
-                    }
+            int ends = goings.endsKept(placing);
+            for (int bit = 0; bit < 8 * MOST_PEOPLE; bit++) {
+                if (hasBit(ends, bit) && isWithin(Goings.gone(placing, bit), n)) {
+                    return Goings.deedOf(bit);
                 }
             }
             return isWithin(placing, n) ? STAY : NONE;
         }
 
         private boolean isWithin(int placing, int n) {
-            return placing < turns.length && floodedTo[placing] != NONE
-                    && turns[placing] < n && turns[floodedTo[placing]] < n;
-        }
-
-        private void explore(int start) {
-            int size = goings.placings();
-            if (turns.length < size) {
-                turns = new int[size];
-                floodedTo = new int[size];
-                queue = new int[size];
-            }
-            Arrays.fill(floodedTo, 0, size, NONE);
-            tail = 0;
-            visit(start);
-            for (int head = 0; head < tail && head < queue.length; head++) {
-                int placing = queue[head];
-                int ends = goings.endsOf(placing);
-                for (int i = 0; i < 8 * goings.people(); i++) {
-                    if (hasBit(ends, i)) {
-                        visit(moved(placing, i / 8, i % 8));
-                    }
-                }
-                visit(floodedTo[placing]);
-            }
-        }
-
-        private void visit(int placing) {
-            if (placing < 0 || placing >= floodedTo.length || floodedTo[placing] != NONE || tail >= queue.length) {
-                return;
-            }
-            floodedTo[placing] = goings.behindTide(placing);
-            queue[tail] = placing;
-            tail++;
+            return placing >= 0 && placing < turns.length && turns[placing] < n
+                    && floodedTo[placing] != NONE && turns[floodedTo[placing]] < n;
         }
     }
 
@@ -1986,29 +1996,6 @@ public final class FordLine {
                 }
             }
             return NONE;
-        }
-    }
-
-    /** The DEEDS of a SEASON. */
-    private static final class Draws {
-        private int x;
-
-        private Draws(int seed) {
-            x = seed;
-        }
-
-        private int draw() {
-            x = 1103515245 * x + 12345;
-            return x >>> 16;
-        }
-
-        private int deed() {
-            int kind = draw() % 6;
-            if (kind == 4) {
-                return FLOODS + draw() % 10;
-            }
-            int p = draw() % 4;
-            return kind == 5 ? STRENGTHENINGS + 10 * p + draw() % 10 : 10 * p + draw() % 8;
         }
     }
 

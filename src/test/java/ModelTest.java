@@ -38,7 +38,7 @@ public final class ModelTest {
         log.append(call).append(" -> ").append(want).append('\n');
         if (got != want && right) {
             right = false;
-            System.out.println(log);
+            System.out.println(log.substring(Math.max(0, log.length() - 2000)));
             System.out.println("WRONG: " + call + " answered " + got + ", due is " + want);
         }
     }
