@@ -168,6 +168,11 @@ public final class PromisesTest {
         fault("river 2;t\u00efde 1;", 2, 8);
         fault("river 2;tides 1;", 2, 8);
         fault("river 2;tid 1;", 2, 8);
+        fault("river 2;zoo;", 2, 8);
+        fault("river 2;tide{1;", 1, 12);
+        fault("river 2;`tide 1;", 1, 8);
+        fault("river 2;tide /;", 1, 13);
+        fault("river 2;tide,1;", 1, 12);
         fault("river 2;person;", 2, 14);
         fault("river 2;person reach;", 2, 20);
         fault("river 2;person reach 0;", 3, 21);
@@ -244,6 +249,9 @@ public final class PromisesTest {
         FordLine bank = ford("river 4;person reach 2 at 1;person reach 1 at 2;trusts:gap=2;");
         due("9: by the near bank to a stone that gap 1 doesn't let one upon", bank.steps(0, 4), 3);
         due("9: without it", bank.steps(0, 3), 1);
+        FordLine far = ford("river 4;person reach 2 at 4;person reach 1 at 3;trusts:gap=2;");
+        due("9: by the far bank", far.steps(0, 1), 3);
+        due("9: by the far bank", far.person(0, 4), 0b100110);
     }
 
     private static void laws() {
@@ -354,6 +362,11 @@ public final class PromisesTest {
         due("14: all ten", y.undo(10), 0);
         due("14: the eldest is forgotten", y.spot(3, 0), 9);
         due("14: as it was", y.person(0, 2), 1);
+        for (int i = 0; i < 25; i++) y.strength(0, i % 10);
+        for (int i = 24; i >= 15; i--) {
+            due("14: one by one, how many still", y.undo(1), i - 15);
+            due("14: one by one", y.person(0, 2), (i - 1) % 10);
+        }
     }
 
     private static void trayDeeds() {
@@ -647,6 +660,10 @@ public final class PromisesTest {
         due("37: in one turn by itself", stay.forces(1), 1);
         due("38: straight over", stay.best(1), 12);
         due("37: never", stay.forces(0), -1);
+        FordLine way = ford("river 1;person reach 1 strength 9;person reach 2;person reach 1 family 2 at 1 strength 1;"
+                + "trusts : family = theirs;");
+        due("37: 2 has to go out of the way, then twice 0", way.forces(0), 3);
+        due("38: the river needn't sweep it, so not 12", way.best(0), 20);
     }
 
     private static void springs() {
