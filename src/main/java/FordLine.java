@@ -40,6 +40,7 @@ public final class FordLine {
 
     private static final int FLOODS = 100;
     private static final int STRENGTHENINGS = 200;
+    private static final int LAST_DEED = 399;
     private static final int STAY = 99;
     private static final int PAIR_OF = 10;
 
@@ -709,7 +710,7 @@ public final class FordLine {
     }
 
     private int whyNot(long moment, long deed) {
-        if (deed < 0 || deed >= 2 * STRENGTHENINGS) {
+        if (deed < 0 || deed > LAST_DEED) {
             return WHY_NO_SUCH;
         }
         int whom = (int) deed % 100 / 10;
