@@ -1,3 +1,10 @@
+import java.util.ArrayList;
+import java.util.Arrays;
+import java.util.List;
+import java.util.function.Consumer;
+import java.util.function.ToLongBiFunction;
+import java.util.function.ToLongFunction;
+
 /** What can be asked: promises 18 to 40 and what "Terms" says of these, sentence by sentence at its edges. */
 public final class AskedEdgesTest {
     private static final Edges E = new Edges();
@@ -54,6 +61,7 @@ public final class AskedEdgesTest {
         E.due("18 of them", ford(SHUT).soonest(15), 18);
         E.due("over", ford("river 1;person reach 1 at 2;").soonest(1), 0);
         E.due("one", ford("river 3;person reach 4;").soonest(1), 1);
+        E.due("one, by five STEPS", ford(DeedEdgesTest.FIVE_STEPS).soonest(1), 1);
 
         E.says("Promise 18", "NONE: it can't be;");
         for (int a = 0; a <= 3; a++) {
@@ -176,6 +184,9 @@ public final class AskedEdgesTest {
         for (int people = 1; people <= 4; people++) {
             E.due("all of " + people, ford("river 1;" + "person reach 1;".repeat(people) + "trusts:1=2;").most(), people);
         }
+        for (int people = 1; people <= 4; people++) {
+            E.due("all of " + people + ", as they are", ford("river 1;" + "person reach 1 at 2;".repeat(people)).most(), people);
+        }
         E.due("all", ford(SHUT).most(), 4);
 
         E.says("Promise 24", "PLACES where a PERSON can be by some ROW, as bits (where it is, too).");
@@ -184,6 +195,9 @@ public final class AskedEdgesTest {
             E.unchanged(255, "reach(" + p + ")", x -> x.reach(one));
         }
         for (int spots = 1; spots <= 6; spots++) {
+            for (int at = 0; at <= spots + 1; at++) {
+                E.due("one alone", ford("river " + spots + ";person reach 1 at " + at + ";").reach(0), (1 << spots + 2) - 1);
+            }
             FordLine x = ford("river " + spots + ";person reach 1 at 1;person reach 1;trusts:1=2;");
             E.due("all of " + spots, x.reach(0), (1 << spots + 2) - 1);
             E.due("all of " + spots, x.reach(1), (1 << spots + 2) - 1);
@@ -218,6 +232,7 @@ public final class AskedEdgesTest {
         E.due("a stone just as far", ford("river 6;person reach 1;person reach 1 at 3;trusts:gap<4;").stride(0), 4);
         E.due("gaps above 4, too", ford("river 6;person reach 1;person reach 1 at 6;trusts:gap=6;").stride(0), 6);
         E.due("less than its own", ford("river 2;person reach 4 at 2;").stride(0), 1);
+        E.due("by five STEPS", ford(DeedEdgesTest.FIVE_STEPS.replace("reach 2", "reach 1")).stride(0), 2);
 
         E.says("Promise 26", "NONE: by none; it is there; -2.");
         E.unchanged(-1, "it is there", x -> x.stride(3));
@@ -310,6 +325,8 @@ public final class AskedEdgesTest {
         E.due("all on the near bank", ford(WIDE).orders(), 1);
         String any = "river 3;person reach 4 at 3;person reach 4 at 1;person reach 4 at 2;person reach 4 at 4;";
         E.due("all", ford(any).orders(), 24);
+        E.due("the last by all three stones", ford("river 3;person reach 1 at 1;person reach 1 at 2;person reach 1 at 3;"
+                + "person reach 1 at 4;").orders(), 1);
         E.in(() -> ford("river 3;person reach 1 at 2;"));
         E.unchanged(0, "none", FordLine::orders);
 
@@ -358,7 +375,7 @@ public final class AskedEdgesTest {
         return x;
     }
 
-    private static void badFelt(String what, java.util.function.ToLongBiFunction<FordLine, int[]> call) {
+    private static void badFelt(String what, ToLongBiFunction<FordLine, int[]> call) {
         E.in(Edges::full);
         for (int tray : new int[] {-1, 4, LEAST, GREATEST}) {
             E.refused(-2, what + " tray " + tray, x -> call.applyAsLong(x, new int[] {tray, 0}));
@@ -475,6 +492,8 @@ public final class AskedEdgesTest {
         }
         E.due("0 over, the others back: 3 + 3 + 2 + 1 turns and 7", ford(SHUT + "tide 0;").forces(3), 16);
 
+        E.due("by five STEPS", ford(DeedEdgesTest.FIVE_STEPS).forces(0), 1);
+
         E.says("Promise 37", "NONE: never; -2.");
         E.in(() -> ford("river 1;tide 6;person reach 1;"));
         E.unchanged(-1, "never", x -> x.forces(0));
@@ -564,8 +583,99 @@ public final class AskedEdgesTest {
 
     // ---- the terms
 
+    private static final String LAWFUL = "river 5;depth 1 4 2 6 3;tide 4;person reach 2 strength 6 family 1 at 2;"
+            + "person reach 1 strength 3 family 1 at 3;person reach 3 strength 5 family 2;person reach 2 strength 7 at 5;"
+            + "holds:strength+beside*2>water+depth-spot;trusts:family=theirs or stone>gap+3;";
+
+    /** What can be asked of all that is now. */
+    private static List<ToLongFunction<FordLine>> questions() {
+        List<ToLongFunction<FordLine>> all = new ArrayList<>();
+        for (int set : new int[] {1, 6, 15}) {
+            all.addAll(List.of(x -> x.soonest(set), x -> x.way(set, 0), x -> x.way(set, 1), x -> x.rows(set, 4),
+                    x -> x.needed(set), x -> x.movers(set)));
+        }
+        for (int i = 0; i < 4; i++) {
+            int p = i;
+            all.addAll(List.of(x -> x.person(p, 4), x -> x.stride(p), x -> x.least(p), x -> x.forces(p), x -> x.best(p),
+                    x -> x.pairs(10 + p), x -> x.chance(p, 2, 0), x -> x.order(p), x -> x.reach(p)));
+        }
+        for (int i = 0; i <= 9; i++) {
+            int water = i;
+            all.addAll(List.of(x -> x.swept(water), x -> x.looks(water)));
+        }
+        all.addAll(List.of(x -> x.calm(), x -> x.orders(), x -> x.firsts(), x -> x.pairs(0), x -> x.most(), x -> x.stands(),
+                x -> x.mean(3, 0), x -> x.mean(3, 1), x -> x.rows(0, 3), x -> x.rows(0, 2)));
+        return all;
+    }
+
+    private static long[] answers(FordLine x) {
+        return questions().stream().mapToLong(q -> q.applyAsLong(x)).toArray();
+    }
+
+    /** Whatever was asked ahead, what is asked behind some DEEDS is as if it had not been: all at once, and each alone. */
+    private static void asIsNow(String what, Consumer<FordLine> first, Consumer<FordLine> then) {
+        FordLine fresh = ford(LAWFUL);
+        first.accept(fresh);
+        then.accept(fresh);
+        long[] due = answers(fresh);
+        FordLine x = ford(LAWFUL);
+        first.accept(x);
+        answers(x);
+        then.accept(x);
+        E.right(what, Arrays.equals(answers(x), due));
+        List<ToLongFunction<FordLine>> all = questions();
+        for (int i = 0; i < due.length; i++) {
+            FordLine y = ford(LAWFUL);
+            first.accept(y);
+            all.get(i).applyAsLong(y);
+            then.accept(y);
+            E.due(what + ", question " + i, all.get(i).applyAsLong(y), due[i]);
+        }
+    }
+
+    private static void fromNowOn() {
+        for (int p = 0; p < 4; p++) {
+            int one = p;
+            for (int n = 0; n <= 9; n++) {
+                int strength = n;
+                asIsNow("STRENGTH of " + p, x -> { }, x -> x.strength(one, strength));
+            }
+            for (int to = 0; to <= 6; to++) {
+                int place = to;
+                asIsNow("PERSON " + p + " to " + to, x -> { }, x -> x.go(one, place));
+            }
+        }
+        for (int s = 1; s <= 5; s++) {
+            int spot = s;
+            for (int deep : new int[] {0, 5, 9}) asIsNow("DEPTH of " + s, x -> { }, x -> x.depth(spot, deep));
+        }
+        for (int water = 0; water <= 9; water++) {
+            int w = water;
+            asIsNow("FLOOD of " + w, x -> { }, x -> x.flood(w));
+            asIsNow("UNDONE", x -> x.flood(w), x -> x.undo(1));
+        }
+        asIsNow("UNDONE", x -> x.strength(0, 0), x -> x.undo(1));
+        asIsNow("UNDONE", x -> x.depth(2, 0), x -> x.undo(1));
+        for (int seed = 0; seed < 20; seed++) {
+            int one = seed;
+            asIsNow("SEASON", x -> x.season(one, 3), x -> x.season(one, 5));
+        }
+        asIsNow("another river", x -> { }, x -> Edges.tell(x, LAWFUL.replace("strength 7", "strength 1")));
+        asIsNow("another law", x -> { }, x -> Edges.tell(x, LAWFUL.replace("stone>", "stone<")));
+        asIsNow("another law", x -> { }, x -> Edges.tell(x, LAWFUL.replace("beside*2", "beside*0")));
+        asIsNow("fewer PEOPLE", x -> { }, x -> Edges.tell(x, "river 5;person reach 2;person reach 1 at 3;"));
+        asIsNow("more PEOPLE", x -> Edges.tell(x, "river 5;person reach 2;person reach 1 at 3;"), x -> Edges.tell(x, LAWFUL));
+        asIsNow("an IMAGE", x -> {
+            x.image(0);
+            x.strength(0, 1);
+            x.depth(2, 9);
+            x.go(1, 4);
+        }, x -> x.restore(0));
+    }
+
     private static void terms() {
         E.says("Terms 3", "A ROW: GOINGS (told as DEEDS) from now on, one behind the other, nothing else being done.");
+        fromNowOn();
         E.due("no GOING", ford(WIDE).rows(0, 0), 1);
         E.due("told as DEEDS", ford("river 1;person reach 1;person reach 2;").way(2, 0), 12);
         E.due("nobody is swept meanwhile", ford("river 3;tide 9;person reach 1 strength 0;holds:1=2;").soonest(1), 4);
@@ -587,6 +697,10 @@ public final class AskedEdgesTest {
         E.due("0 as a stone at 2", stone.way(3, 0), 2);
         E.due("1 by it", stone.way(3, 1), 14);
         E.due("then 0", stone.way(3, 2), 4);
+        FordLine blocked = ford("river 2;person reach 1;person reach 1 at 1;trusts:1=2;");
+        E.due("1 goes back, then 0", blocked.soonest(1), 4);
+        int[] round = {10, 1, 2, 3, -1};
+        for (int i = 0; i < 5; i++) E.due("1 goes back, then 0", blocked.way(1, i), round[i]);
         FordLine out = ford("river 1;person reach 1 at 2;person reach 1;trusts:1=2;");
         E.due("all of these behind it", out.soonest(3), 2);
         E.due("none of the others has to be", out.soonest(1), 0);
@@ -635,6 +749,7 @@ public final class AskedEdgesTest {
         E.due("for a STEP of 1", ford(four + "gap=1;").pairs(0), 2);
         E.due("not of 2", ford(four + "gap=2;").pairs(0), 0);
         E.due("each other", ford(four + "who<3 and theirs=3;").pairs(0), 0);
+        E.due("each other", ford(four + "who=3 and theirs<3;").pairs(0), 0);
         FordLine all = ford(four + "1=1;");
         int[] first = {1, 0, 3, 2};
         for (int p = 0; p < 4; p++) E.due("the first", all.pairs(10 + p), first[p]);
@@ -646,7 +761,14 @@ public final class AskedEdgesTest {
         int[] one = {3, -1, -1, 0};
         E.due("each once at most", star.pairs(0), 1);
         for (int p = 0; p < 4; p++) E.due("0 with it, none behind all", star.pairs(10 + p), one[p]);
+        for (int p = 0; p < 4; p++) {
+            E.due("each once at most", ford(four + "family=" + p + " or theirs=" + p + ";").pairs(0), 1);
+        }
+        FordLine twoOfOne = ford(four + "family*theirs=2 or family*theirs=3;");
+        int[] least = {-1, 2, 1, -1};
+        for (int p = 0; p < 4; p++) E.due("1 with 2 or 3", twoOfOne.pairs(10 + p), least[p]);
         FordLine last = ford(four + "family+theirs=5;");
+        E.due("those who are left", last.pairs(0), 1);
         int[] none = {-1, -1, 3, 2};
         for (int p = 0; p < 4; p++) E.due("those who are left", last.pairs(10 + p), none[p]);
 
@@ -659,9 +781,14 @@ public final class AskedEdgesTest {
         E.due("one more", ford("river 2;tide 4;person reach 1 strength 3;").forces(0), -1);
         String needs = "river 2;tide 6;person reach 2 strength 0;person reach 2 strength ";
         E.due("by one who holds", ford(needs + "6;").forces(0), 2);
+        E.due("who has to be there first, or 0 could be swept", ford(needs + "6;").best(0), 11);
         E.due("by one who doesn't", ford(needs + "5;").forces(0), -1);
         E.due("a FLOOD isn't to be counted upon", ford("river 1;tide 5;person reach 1 strength 9;"
                 + "person reach 1 strength 0 at 1;trusts:1=2;").forces(0), 3);
+        FordLine way = ford("river 1;tide 5;person reach 1 strength 9;person reach 2;person reach 1 strength 1 family 2 at 1;"
+                + "trusts:family=theirs;");
+        E.due("nor is it helped by one: 2 out of the way, then twice 0", way.forces(0), 3);
+        E.due("1 going over first would need a FLOOD", way.best(0), 20);
         FordLine lucky = ford("river 3;tide 5;person reach 1 strength 9 at 1;person reach 1 strength 9 at 2;"
                 + "person reach 1;trusts:1=2;");
         E.due("two in the way", lucky.forces(2), 2 + 1 + 4);

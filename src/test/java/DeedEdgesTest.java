@@ -4,6 +4,9 @@ public final class DeedEdgesTest {
     private static final int LEAST = Edges.LEAST;
     private static final int GREATEST = Edges.GREATEST;
 
+    /** From SPOT 1 by the near bank and the stones on 2, 4 and 6 to the far bank: more STEPS are never needed. */
+    static final String FIVE_STEPS = "river 6;tide 0;person reach 2 at 1;person reach 1 at 2;person reach 1 at 4;"
+            + "person reach 1 at 6;trusts:gap=2;";
     private static final String IN_A_ROW = "river 4;person reach 1 at 1;person reach 1 at 2;person reach 1 at 3;";
 
     /** Whether a law holds for the one PERSON on the one SPOT. */
@@ -32,6 +35,7 @@ public final class DeedEdgesTest {
                 E.unchanged(people[p][what], "person(" + p + "," + what + ")", x -> x.person(one, asked));
             }
         }
+        E.due("by as many STEPS as there can be", Edges.ford(FIVE_STEPS).person(0, 4), 0b10101001);
         FordLine stuck = Edges.ford("river 1;person reach 1;person reach 1 at 1;trusts:1=2;");
         E.due("to none", stuck.person(0, 4), 0);
         E.due("to both banks", stuck.person(1, 4), 0b101);
@@ -47,7 +51,7 @@ public final class DeedEdgesTest {
 
     private static void promise6() {
         E.says("Promise 6", "Of a SPOT (1 and on), what 0: DEPTH, 1: who STANDS there (NONE).");
-        int[] depths = {0, 7, 3, 4, 5, 9};
+        int[] depths = {8, 7, 3, 4, 5, 9};
         int[] who = {-1, 0, -1, 2, -1, -1};
         for (int s = 1; s <= 6; s++) {
             int one = s;
@@ -123,8 +127,7 @@ public final class DeedEdgesTest {
         E.due("the fewest", few.steps(3, 4), 2);
         FordLine all = Edges.ford("river 3;person reach 1 at 1;person reach 1 at 2;person reach 1 at 3;person reach 1;");
         E.due("by all stones over", all.steps(3, 4), 4);
-        FordLine most = Edges.ford("river 6;person reach 2 at 1;person reach 1 at 2;person reach 1 at 4;"
-                + "person reach 1 at 6;trusts:gap=2;");
+        FordLine most = Edges.ford(FIVE_STEPS);
         E.due("by the near bank and three stones", most.steps(0, 7), 5);
         E.due("and from the far bank one on", most.steps(0, 5), 4);
 
@@ -155,6 +158,11 @@ public final class DeedEdgesTest {
             E.due("undone", x.undo(1), 9);
             E.due("it is back", x.person(g[0], 0), g[2]);
         }
+
+        E.due("by as many STEPS as there can be", Edges.ford(FIVE_STEPS).go(0, 7), 1);
+        FordLine told = Edges.ford(FIVE_STEPS);
+        Edges.tray(told, 0, 0, 7);
+        E.due("as a DEED, too", told.perform(0), 1);
 
         E.says("Promise 10", "-11 to -13.");
         E.refusedEach(-11, "go p", (x, p) -> x.go(p, 1), -1, 4, LEAST, GREATEST);
@@ -213,7 +221,7 @@ public final class DeedEdgesTest {
         E.refused(-11, "nobody", x -> x.strength(0, 5));
 
         E.says("Promise 13", "To have a DEPTH (0 to 9): what it was.");
-        int[] depths = {0, 7, 3, 4, 5, 9};
+        int[] depths = {8, 7, 3, 4, 5, 9};
         for (int s = 1; s <= 6; s++) {
             for (int n : new int[] {0, 9}) {
                 FordLine x = Edges.full();

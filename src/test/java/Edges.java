@@ -252,7 +252,7 @@ final class Edges {
         tray(x, 1, 0, 13, 18);
         tray(x, 3, 3, 2, 20);
         x.strength(1, 4);
-        x.depth(1, 0);
+        x.depth(1, 8);
         x.flood(6);
         x.go(0, 1);
         x.strength(3, 8);

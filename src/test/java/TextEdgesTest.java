@@ -86,6 +86,9 @@ public final class TextEdgesTest {
         Edges.feed(x, text);
         E.due("the end within an N", x.river(21), -32);
         E.due("there is its end", x.fault(1), 21);
+        Edges.feed(x, "river 2;tides 1;");
+        E.due("the end within a word", x.river(12), -32);
+        E.due("there is its end", x.fault(1), 12);
         Edges.feed(x, text);
         E.due("no byte", x.river(0), -32);
         E.due("the tape is empty", x.count(7), 0);
@@ -180,6 +183,10 @@ public final class TextEdgesTest {
         E.due("there", x.fault(1), 899);
         E.due("a FAULT at the end", Edges.tell(x, "river 2;" + times(886, " ") + "tide 7"), -32);
         E.due("there", x.fault(1), 900);
+        E.due("a word to the end", Edges.tell(x, "river 2;" + times(888, " ") + "tide"), -32);
+        E.due("there", x.fault(1), 900);
+        E.due("900 TOKENS", Edges.tell(x, times(900, ";")), -32);
+        E.due("the first of them", x.fault(1), 0);
         StringBuilder law = new StringBuilder("river1;person reach1 at1;holds:0");
         while (law.length() < 894) law.append("+1");
         law.append("=431;");
