@@ -55,6 +55,23 @@ public final class LanguageTest {
         right("1: public and final", Modifier.isFinal(FordLine.class.getModifiers()));
     }
 
+    /** The class says ahead of its calls what the document's interface says there. */
+    private static void heads(String source) throws IOException {
+        Matcher told = Pattern.compile("Ahead of the calls (.*?) the interface says: (---- .*?)\\.\n")
+                .matcher(Files.readString(Path.of("../shared/DOC.md")));
+        int calls = 0;
+        while (told.find()) {
+            int from = source.indexOf("    // " + told.group(2) + "\n");
+            int to = Math.max(from, source.indexOf("    // ----", from + 1));
+            List<String> there = new ArrayList<>();
+            Matcher m = Pattern.compile("    public (?:int|long) (\\w+)\\(").matcher(source.substring(Math.max(0, from), to));
+            while (m.find()) there.add("`" + m.group(1) + "`");
+            right("the calls behind " + told.group(2), from >= 0 && String.join(", ", there).equals(told.group(1)));
+            calls += there.size();
+        }
+        right("each call has its head: " + calls, calls == 45);
+    }
+
     private static String parameters(Class<?>[] types) {
         return Arrays.toString(types).replace('[', '(').replace(']', ')');
     }
@@ -118,6 +135,7 @@ public final class LanguageTest {
         right("3: signs 10 and 32 to 126 alone", source.chars().allMatch(c -> c == 10 || c >= 32 && c < 127));
         String text = bare(source);
         face();
+        heads(source);
         classes();
         words(text);
         lengths(text);
